@@ -381,7 +381,11 @@ public final class IdealWorks {
         private final int[] codes = new int[ROOM];
         private final int[] weights = new int[VARIABLES];
         private final int[] places = new int[CODES];
+        /** Of monomial m and variable v, at m * VARIABLES + v: their product, and m divided by v; NONE if the table has none. */
+        private final int[] aboves = new int[ROOM * VARIABLES];
+        private final int[] belows = new int[ROOM * VARIABLES];
         private final int[] hand = new int[VARIABLES];
+        private final int[] powers = new int[DEGREES];
 
         Ring() {
         }
@@ -403,6 +407,7 @@ public final class IdealWorks {
                 layDegree(order == 0 ? n - 1 : 0, d);
                 ends[d] = count;
             }
+            linkNeighbours();
         }
 
         /** Gives the degree that is left to variable v and those that the order looks at later, least monomials first. */
@@ -440,24 +445,34 @@ public final class IdealWorks {
             count++;
         }
 
-        int exponentOf(int m, int v) {
-            return exponents[m * VARIABLES + v];
+        private void linkNeighbours() {
+            Arrays.fill(aboves, NONE);
+            Arrays.fill(belows, NONE);
+            for (int m = 0; m < count; m++) {
+                for (int v = 0; v < variables && degrees[m] < highest; v++) {
+                    int higher = placeOf(codes[m] + weights[v]);
+                    aboves[m * VARIABLES + v] = higher;
+                    if (higher != NONE) {
+                        belows[higher * VARIABLES + v] = m;
+                    }
+                }
+            }
         }
 
         private int placeOf(int code) {
             return code >= 0 && code < CODES ? places[code] : NONE;
         }
 
-        int productOf(int m, int other) {
-            return degrees[m] + degrees[other] > highest ? NONE : placeOf(codes[m] + codes[other]);
+        int exponentOf(int m, int v) {
+            return exponents[m * VARIABLES + v];
         }
 
         int above(int m, int v) {
-            return degrees[m] >= highest ? NONE : placeOf(codes[m] + weights[v]);
+            return aboves[m * VARIABLES + v];
         }
 
         int below(int m, int v) {
-            return exponentOf(m, v) == 0 ? NONE : placeOf(codes[m] - weights[v]);
+            return belows[m * VARIABLES + v];
         }
 
         int residue(int number) {
@@ -546,14 +561,17 @@ public final class IdealWorks {
             return first == NONE || second == NONE || first + second <= highest;
         }
 
+        /** For a and b whose product fits. */
         void productInto(int[] a, int[] b, int[] out) {
             Arrays.fill(out, 0);
+            int p = prime;
             int most = topOf(b);
-            for (int i = 0; i < count; i++) {
+            for (int i = 0; i < count && p > 1; i++) {
                 for (int j = 0; a[i] != 0 && j <= most; j++) {
-                    int m = b[j] == 0 ? NONE : productOf(i, j);
+                    int code = codes[i] + codes[j];
+                    int m = b[j] != 0 && code < CODES ? places[code] : NONE;
                     if (m != NONE) {
-                        out[m] = residue(out[m] + a[i] * b[j]);
+                        out[m] = (out[m] + a[i] * b[j]) % p;
                     }
                 }
             }
@@ -562,7 +580,7 @@ public final class IdealWorks {
         void raisedInto(int[] a, int v, int[] out) {
             Arrays.fill(out, 0);
             for (int m = 0; m < count; m++) {
-                int to = a[m] == 0 ? NONE : above(m, v);
+                int to = a[m] == 0 ? NONE : aboves[m * VARIABLES + v];
                 if (to != NONE) {
                     out[to] = a[m];
                 }
@@ -572,22 +590,40 @@ public final class IdealWorks {
         void derivativeInto(int[] a, int v, int[] out) {
             Arrays.fill(out, 0);
             for (int m = 0; m < count; m++) {
-                int to = a[m] == 0 ? NONE : below(m, v);
+                int to = a[m] == 0 ? NONE : belows[m * VARIABLES + v];
                 if (to != NONE) {
-                    out[to] = residue(a[m] * exponentOf(m, v));
+                    out[to] = residue(a[m] * exponents[m * VARIABLES + v]);
                 }
             }
         }
 
         void substituteInto(int[] a, int v, int number, int[] out) {
             Arrays.fill(out, 0);
+            powers[0] = 1;
+            for (int e = 1; e <= highest && e < DEGREES; e++) {
+                powers[e] = residue(powers[e - 1] * number);
+            }
             for (int m = 0; m < count; m++) {
-                int exponent = exponentOf(m, v);
-                int to = a[m] == 0 ? NONE : placeOf(codes[m] - exponent * weights[v]);
+                if (a[m] == 0) {
+                    continue;
+                }
+                int exponent = exponents[m * VARIABLES + v];
+                int to = placeOf(codes[m] - exponent * weights[v]);
                 if (to != NONE) {
-                    out[to] = residue(out[to] + a[m] * power(number, exponent));
+                    out[to] = residue(out[to] + a[m] * powers[exponent]);
                 }
             }
+        }
+
+        /** The coefficients of the powers of variable v alone, by the exponent: the greatest that is there, or NONE. */
+        int lineInto(int[] a, int v, int[] line) {
+            int top = NONE;
+            for (int e = 0; e <= highest && e < DEGREES; e++) {
+                int m = placeOf(e * weights[v]);
+                line[e] = m == NONE ? 0 : a[m];
+                top = line[e] == 0 ? top : e;
+            }
+            return top;
         }
 
         void widenInto(int[] a, Ring wide, int[] out) {
@@ -801,7 +837,7 @@ public final class IdealWorks {
         private int takeNumber(int mostDigits) {
             int from = at;
             int number = 0;
-            while (isDigitNext()) {
+            while (at < length && isDigitNext()) {
                 number = at - from < mostDigits ? number * 10 + (text[at] - '0') : number;
                 at++;
             }
@@ -1457,9 +1493,10 @@ public final class IdealWorks {
         }
 
         static void addRow(Ring ring, int[] a, int factor, int[] b) {
-            for (int s = 0; s < MOST; s++) {
+            int p = ring.prime;
+            for (int s = 0; s < MOST && p > 1; s++) {
                 if (b[s] != 0) {
-                    a[s] = ring.residue(a[s] + factor * b[s]);
+                    a[s] = (a[s] + factor * b[s]) % p;
                 }
             }
         }
@@ -1621,9 +1658,12 @@ public final class IdealWorks {
         private int found = 0;
         private final int[] kept = new int[KEPT * VARIABLES];
         private final int[] point = new int[VARIABLES];
-        private final int[] values = new int[ROOM];
-        /** Of each generator, the numbers for all variables but the last put in, the coefficients by the last one's exponent. */
+        /** At v * GENERATORS + g: generator g with the point's numbers in the place of all variables ahead of v. */
+        private final int[][] stages = new int[VARIABLES * GENERATORS][ROOM];
+        private int generatorCount = 0;
+        /** The generators as polynomials of the last variable alone, and their degrees. */
         private final int[][] lines = new int[GENERATORS][Ring.DEGREES];
+        private final int[] lineTops = new int[GENERATORS];
 
         ZeroFinder() {
         }
@@ -1631,67 +1671,51 @@ public final class IdealWorks {
         int search(Ring ring, Ideal of) {
             variables = ring.variables;
             found = 0;
-            int last = variables - 1;
-            int beginnings = ring.points(last);
-            for (int k = 0; k < beginnings; k++) {
-                placeBeginning(ring, k);
-                drawLines(ring, of);
-                for (int number = 0; number < ring.prime; number++) {
-                    if (isZero(ring, of, number)) {
-                        point[last] = number;
-                        keepPoint();
-                    }
-                }
+            generatorCount = Math.min(of.generatorCount, GENERATORS);
+            for (int g = 0; g < generatorCount; g++) {
+                System.arraycopy(of.generators[g], 0, stages[g], 0, ROOM);
             }
+            searchFrom(ring, 0);
             return found;
         }
 
-        private void placeBeginning(Ring ring, int k) {
-            int rest = k;
-            for (int v = variables - 2; v >= 0 && ring.prime > 1; v--) {
-                point[v] = rest % ring.prime;
-                rest /= ring.prime;
+        /** Goes through all numbers for variable v and those behind it. */
+        private void searchFrom(Ring ring, int v) {
+            if (v < 0 || v >= variables) {
+                return;
+            }
+            if (v == variables - 1) {
+                searchLine(ring, v);
+                return;
+            }
+            for (int number = 0; number < ring.prime; number++) {
+                point[v] = number;
+                for (int g = 0; g < generatorCount; g++) {
+                    int from = v * GENERATORS + g;
+                    ring.substituteInto(stages[from], v, number, stages[from + GENERATORS]);
+                }
+                searchFrom(ring, v + 1);
             }
         }
 
-        private void drawLines(Ring ring, Ideal of) {
-            for (int m = 0; m < ring.count; m++) {
-                values[m] = valueOfBeginning(ring, m);
+        private void searchLine(Ring ring, int v) {
+            for (int g = 0; g < generatorCount; g++) {
+                lineTops[g] = ring.lineInto(stages[v * GENERATORS + g], v, lines[g]);
             }
-            for (int g = 0; g < of.generatorCount && g < GENERATORS; g++) {
-                int[] line = lines[g];
-                Arrays.fill(line, 0);
-                for (int m = 0; m < ring.count; m++) {
-                    int coefficient = of.generators[g][m];
-                    int exponent = ring.exponentOf(m, variables - 1);
-                    if (coefficient != 0) {
-                        line[exponent] = ring.residue(line[exponent] + coefficient * values[m]);
-                    }
+            for (int number = 0; number < ring.prime; number++) {
+                if (isZeroOfLines(ring.prime, number)) {
+                    point[v] = number;
+                    keepPoint();
                 }
             }
         }
 
-        /** The monomial's value but for the last variable; those of lesser monomials are there already. */
-        private int valueOfBeginning(Ring ring, int m) {
-            for (int v = 0; v < variables - 1; v++) {
-                int lower = ring.below(m, v);
-                if (lower != NONE) {
-                    return ring.residue(values[lower] * point[v]);
-                }
-            }
-            return 1;
-        }
-
-        private boolean isZero(Ring ring, Ideal of, int number) {
-            int p = ring.prime;
-            if (p < 2) {
-                return false;
-            }
-            for (int g = 0; g < of.generatorCount && g < GENERATORS; g++) {
+        private boolean isZeroOfLines(int p, int number) {
+            for (int g = 0; g < generatorCount && p > 1; g++) {
                 int[] line = lines[g];
                 int value = 0;
-                for (int exponent = ring.highest; exponent >= 0; exponent--) {
-                    value = (value * number + line[exponent]) % p;
+                for (int e = lineTops[g]; e >= 0; e--) {
+                    value = (value * number + line[e]) % p;
                 }
                 if (value != 0) {
                     return false;
