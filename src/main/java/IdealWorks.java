@@ -1526,6 +1526,8 @@ public final class IdealWorks {
         private int queued = 0;
         private final int[] queue = new int[MOST_QUEUED];
         private final int[] queueOrigins = new int[MOST_QUEUED];
+        /** The monomial that is looked at, modulo the ideal, and what is left of it behind the pivots. */
+        private final int[] wholeRow = new int[MOST];
         private final int[] row = new int[MOST];
         private final int[] sum = new int[MOST];
 
@@ -1558,12 +1560,7 @@ public final class IdealWorks {
             if (isDone(packed)) {
                 return;
             }
-            if (smallCount < MOST) {
-                loadRow(ring, quotient, origin, smallRows[smallCount]);
-                System.arraycopy(smallRows[smallCount], 0, row, 0, MOST);
-            } else {
-                loadRow(ring, quotient, origin, row);
-            }
+            loadRow(ring, quotient, origin);
             int pivot = eliminate(ring);
             if (pivot == NONE) {
                 keepHead(packed);
@@ -1581,17 +1578,18 @@ public final class IdealWorks {
             return Packed.find(smalls, smallCount, packed) != NONE;
         }
 
-        private void loadRow(Ring ring, Quotient quotient, int origin, int[] out) {
+        private void loadRow(Ring ring, Quotient quotient, int origin) {
             if (origin == NONE) {
-                Arrays.fill(out, 0);
-                out[0] = 1;
+                Arrays.fill(wholeRow, 0);
+                wholeRow[0] = 1;
             } else {
-                quotient.timesInto(ring, smallRows[origin / VARIABLES], origin % VARIABLES, out);
+                quotient.timesInto(ring, smallRows[origin / VARIABLES], origin % VARIABLES, wholeRow);
             }
         }
 
         /** Takes the pivot rows from row; sum tells what came of the standard monomials. The first place that is left, or NONE. */
         private int eliminate(Ring ring) {
+            System.arraycopy(wholeRow, 0, row, 0, MOST);
             Arrays.fill(sum, 0);
             for (int k = 0; k < smallCount; k++) {
                 int factor = ring.negative(row[pivots[k]]);
@@ -1619,6 +1617,7 @@ public final class IdealWorks {
         private void keepSmall(Ring ring, int packed, int pivot) {
             int scale = ring.inverse(row[pivot]);
             sum[smallCount] = 1;
+            System.arraycopy(wholeRow, 0, smallRows[smallCount], 0, MOST);
             Arrays.fill(pivotRows[smallCount], 0);
             Quotient.addRow(ring, pivotRows[smallCount], scale, row);
             Arrays.fill(pivotSums[smallCount], 0);

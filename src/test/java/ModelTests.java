@@ -993,18 +993,12 @@ public final class ModelTests {
             int i = chance.nextInt(4);
             same("clear(" + i + ")", () -> { works.clear(i); return 0; }, () -> { model.clear(i); return 0; });
             int highest = 1;
+            boolean dense = often(50);
             for (int v = 0; v < model.n; v++) {
                 int most = model.n == 1 ? 30 : model.n == 2 ? 7 : model.n == 3 ? 4 : 3;
-                int e = 1 + chance.nextInt(most);
+                int e = dense && model.n > 2 ? 2 : 1 + chance.nextInt(most);
                 highest = Math.max(highest, e);
-                StringBuilder s = new StringBuilder("xyzw".charAt(v) + "^" + e);
-                for (int t = chance.nextInt(4); t > 0; t--) {
-                    s.append(often(50) ? "+" : "-").append(1 + chance.nextInt(9));
-                    for (int left = often(50) ? e - 1 : e; left > 0 && often(80); left--) {
-                        s.append("*").append("xyzw".charAt(chance.nextInt(model.n)));
-                    }
-                }
-                text(s.toString());
+                text(dense && e < 6 ? forms(e) : powerAndMore(v, e));
                 int k = chance.nextInt(16);
                 same("read(" + k + ")", () -> works.read(k), () -> model.read(k));
                 same("join(" + i + "," + k + ")", () -> works.join(i, k), () -> model.join(i, k));
@@ -1013,6 +1007,33 @@ public final class ModelTests {
             same("basis(" + i + "," + d + ")", () -> works.basis(i, d), () -> model.basis(i, d));
             askIdeal(i);
             dictionary(i);
+        }
+
+        private String powerAndMore(int v, int e) {
+            StringBuilder s = new StringBuilder("xyzw".charAt(v) + "^" + e);
+            for (int t = chance.nextInt(4); t > 0; t--) {
+                s.append(often(50) ? "+" : "-").append(1 + chance.nextInt(9));
+                for (int left = often(50) ? e - 1 : e; left > 0 && often(80); left--) {
+                    s.append("*").append("xyzw".charAt(chance.nextInt(model.n)));
+                }
+            }
+            return s.toString();
+        }
+
+        /** Two products of linear forms, so that nearly all monomials up to a degree are there. */
+        private String forms(int e) {
+            StringBuilder s = new StringBuilder();
+            for (int t = 0; t < 2; t++) {
+                s.append(t > 0 ? "+" : "").append("1");
+                for (int k = 0; k < e; k++) {
+                    s.append("*(").append(chance.nextInt(10));
+                    for (int v = 0; v < model.n; v++) {
+                        s.append(often(70) ? "+" + chance.nextInt(10) + "*" + "xyzw".charAt(v) : "");
+                    }
+                    s.append(")");
+                }
+            }
+            return s.toString();
         }
 
         /** A text without a fault but perhaps for degrees. */

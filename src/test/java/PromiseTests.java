@@ -455,6 +455,9 @@ public final class PromiseTests {
         due("5 for y", shown(x, 1), "5*x^3+x^2+4*x+5");
         x.put(0, 0, 1, 0);
         due("into itself", shown(x, 0), "y^2+y+6");
+        poly(x, 2, "2*y^12+x^12+1");
+        x.put(2, 1, 3, 1);
+        due("3 for y in the 12th power", shown(x, 1), "x^12+3");
         for (int k : new int[] {-1, 16, Integer.MIN_VALUE, Integer.MAX_VALUE}) {
             refused("put", 1, () -> { x.put(k, 0, 1, 1); return 0; });
             refused("put", 1, () -> { x.put(0, 0, 1, k); return 0; });
@@ -989,6 +992,14 @@ public final class PromiseTests {
             due("y", entries(x, 2), "1:0,1,0,0 32002:0,0,0,1 ");
             due("x", entries(x, 3), "1:5,0,0,0 32002:0,0,0,1 ");
         }
+        IdealWorks full = works(11, 4, 1);
+        generate(full, 0, "x^2-y", "y^2-z", "z^2-w", "w^5-x");
+        full.basis(0, 5);
+        due("40 monomials of 4 variables", full.dictionary(0), 4);
+        due("w", entries(full, 0), "1:0,0,0,40 10:0,0,0,1 ");
+        due("z", entries(full, 1), "1:0,0,1,0 10:0,0,0,20 ");
+        due("y", entries(full, 2), "1:0,1,0,0 10:0,0,0,10 ");
+        due("x", entries(full, 3), "1:1,0,0,0 10:0,0,0,5 ");
         IdealWorks y = works(3, 1, 0);
         generate(y, 0, "x^30+x+1", "x^30+x+1");
         y.basis(0, 30);
@@ -1052,6 +1063,13 @@ public final class PromiseTests {
         IdealWorks z = works(19997, 1, 0);
         generate(z, 0, "(x-5)*(x-19996)*(x^2)", "x^3-5*x^2+x^2-5*x");
         due("three of one variable", z.zeros(0), 3);
+        generate(x, 1, "x-1", "x-1", "x^2-1", "x-1", "x-1", "x-1", "x-1", "y-2");
+        due("eight generators", x.zeros(1), 1);
+        due("eight generators", x.zero(0, 0) * 10 + x.zero(0, 1), 12);
+        IdealWorks v = works(31, 1, 0);
+        generate(v, 0, "x^30-1");
+        due("all but 0 have the 30th power 1", v.zeros(0), 30);
+        due("the first", v.zero(0, 0), 1);
         IdealWorks w = works(5, 4, 1);
         generate(w, 0, "x-1", "y-x-1", "z+w", "w^2-4");
         due("four variables", w.zeros(0), 2);
