@@ -1,89 +1,6 @@
 /** For each promise of the document: ordinary inputs, the edges that it names, and wrong inputs. */
-public final class PromiseTests {
-    private static final int NONE = -1;
+public final class PromiseTests extends Bench {
     private static final int[] ODD = {-1, Integer.MIN_VALUE, Integer.MAX_VALUE};
-    private static int wrong = 0;
-    private static int promise = 0;
-
-    private interface Call {
-        long go();
-    }
-
-    private static void check(boolean fine, String what) {
-        if (!fine) {
-            wrong++;
-            System.out.println("promise " + promise + ": " + what);
-        }
-    }
-
-    private static void due(String what, long got, long want) {
-        check(got == want, what + " answered " + got + ", due is " + want);
-    }
-
-    private static void due(String what, String got, String want) {
-        check(got.equals(want), what + " answered " + got + ", due is " + want);
-    }
-
-    /** 0 nothing, 1 IndexOutOfBounds, 2 IllegalArgument, 3 IllegalState; only these very classes count. */
-    private static void refused(String what, int want, Call call) {
-        int got = 0;
-        try {
-            call.go();
-        } catch (RuntimeException e) {
-            Class<?> c = e.getClass();
-            got = c == IndexOutOfBoundsException.class ? 1 : c == IllegalArgumentException.class ? 2 : c == IllegalStateException.class ? 3 : 4;
-        }
-        due(what + " (0 nothing, 1 Index, 2 Argument, 3 State, 4 another)", got, want);
-    }
-
-    private static void bytes(IdealWorks x, String s, int from, int size) {
-        int[] words = new int[5];
-        for (int k = 0; k < size; k++) {
-            words[k / 4] |= (s.charAt(from + k) & 255) << (24 - k % 4 * 8);
-        }
-        x.feed(words[0], words[1], words[2], words[3], words[4]);
-    }
-
-    private static void text(IdealWorks x, String s) {
-        for (int at = 0; at < s.length(); at += 20) {
-            int size = Math.min(20, s.length() - at);
-            bytes(x, s, at, size);
-            x.end(size);
-        }
-    }
-
-    private static void poly(IdealWorks x, int k, String s) {
-        text(x, s);
-        x.read(k);
-    }
-
-    private static String shown(IdealWorks x, int k) {
-        int length = x.print(k);
-        StringBuilder s = new StringBuilder();
-        for (int i = 0; i < length; i++) {
-            s.append((char) x.output(i));
-        }
-        return s.toString();
-    }
-
-    private static IdealWorks works(int p, int n, int order) {
-        IdealWorks x = new IdealWorks();
-        x.field(p, n, order);
-        return x;
-    }
-
-    private static void generate(IdealWorks x, int i, String... generators) {
-        x.clear(i);
-        for (String g : generators) {
-            poly(x, 15, g);
-            x.join(i, 15);
-        }
-    }
-
-    private static String element(IdealWorks x, int i, int k) {
-        x.element(i, k, 14);
-        return shown(x, 14);
-    }
 
     private static void newObject() {
         promise = 1;
@@ -123,19 +40,19 @@ public final class PromiseTests {
         x.basis(0, 3);
         x.print(0);
         for (int p : new int[] {0, 1, -1, -7, 4, 9, 91, 31999 * 2, 32001, 32002, 32004, 32009, Integer.MAX_VALUE, Integer.MIN_VALUE}) {
-            refused("field(" + p + ", 2, 0)", 2, () -> { x.field(p, 2, 0); return 0; });
+            refused("field(" + p + ", 2, 0)", 2, () -> x.field(p, 2, 0));
         }
         for (int n : new int[] {0, 5, -1, Integer.MAX_VALUE, Integer.MIN_VALUE}) {
-            refused("field(7, " + n + ", 0)", 2, () -> { x.field(7, n, 0); return 0; });
+            refused("field(7, " + n + ", 0)", 2, () -> x.field(7, n, 0));
         }
         for (int order : new int[] {-1, 2, Integer.MAX_VALUE, Integer.MIN_VALUE}) {
-            refused("field(7, 2, " + order + ")", 2, () -> { x.field(7, 2, order); return 0; });
+            refused("field(7, 2, " + order + ")", 2, () -> x.field(7, 2, order));
         }
         due("a refused field() leaves the basis", x.ideal(0, 1), 1);
         due("a refused field() leaves the polynomial", x.about(0, 0), 3);
         due("a refused field() leaves the output", x.output(0), 'x');
         for (int p : new int[] {2, 3, 5, 7, 181, 31991, 32003}) {
-            refused("field(" + p + ", 1, 1)", 0, () -> { x.field(p, 1, 1); return 0; });
+            refused("field(" + p + ", 1, 1)", 0, () -> x.field(p, 1, 1));
         }
         fieldStays();
     }
@@ -390,9 +307,9 @@ public final class PromiseTests {
         x.add(0, 6, 0, 0);
         due("into itself", shown(x, 0), "0");
         for (int k : new int[] {-1, 16, Integer.MIN_VALUE, Integer.MAX_VALUE}) {
-            refused("add", 1, () -> { x.add(k, 1, 1, 2); return 0; });
-            refused("add", 1, () -> { x.add(1, 1, k, 2); return 0; });
-            refused("add", 1, () -> { x.add(1, 1, 1, k); return 0; });
+            refused("add", 1, () -> x.add(k, 1, 1, 2));
+            refused("add", 1, () -> x.add(1, 1, k, 2));
+            refused("add", 1, () -> x.add(1, 1, 1, k));
         }
         due("nothing changed", shown(x, 2), "3*x+y+3");
     }
@@ -409,15 +326,15 @@ public final class PromiseTests {
         poly(x, 3, "x^10+y");
         x.multiply(3, 0, 4);
         due("degree 12", x.about(4, 1), 12);
-        refused("degree 13", 3, () -> { x.multiply(4, 1, 5); return 0; });
-        refused("degree 20", 3, () -> { x.multiply(3, 3, 3); return 0; });
+        refused("degree 13", 3, () -> x.multiply(4, 1, 5));
+        refused("degree 20", 3, () -> x.multiply(3, 3, 3));
         due("nothing changed", shown(x, 3), "x^10+y");
         x.multiply(4, 9, 5);
         due("times 0", x.about(5, 0), 0);
         for (int k : new int[] {-1, 16, Integer.MIN_VALUE, Integer.MAX_VALUE}) {
-            refused("multiply", 1, () -> { x.multiply(k, 3, 2); return 0; });
-            refused("multiply", 1, () -> { x.multiply(3, k, 2); return 0; });
-            refused("Index is told ahead of State", 1, () -> { x.multiply(3, 3, k); return 0; });
+            refused("multiply", 1, () -> x.multiply(k, 3, 2));
+            refused("multiply", 1, () -> x.multiply(3, k, 2));
+            refused("Index is told ahead of State", 1, () -> x.multiply(3, 3, k));
         }
     }
 
@@ -432,11 +349,11 @@ public final class PromiseTests {
         x.derive(0, 2, 0);
         due("by z, into itself", shown(x, 0), "x^2*y^3+4");
         for (int k : new int[] {-1, 16, Integer.MIN_VALUE, Integer.MAX_VALUE}) {
-            refused("derive", 1, () -> { x.derive(k, 0, 1); return 0; });
-            refused("derive", 1, () -> { x.derive(0, 0, k); return 0; });
+            refused("derive", 1, () -> x.derive(k, 0, 1));
+            refused("derive", 1, () -> x.derive(0, 0, k));
         }
         for (int v : new int[] {-1, 3, 4, Integer.MIN_VALUE, Integer.MAX_VALUE}) {
-            refused("derive by " + v, 1, () -> { x.derive(0, v, 1); return 0; });
+            refused("derive by " + v, 1, () -> x.derive(0, v, 1));
         }
         due("nothing changed", shown(x, 1), "3*x^2*y^2*z");
     }
@@ -459,11 +376,11 @@ public final class PromiseTests {
         x.put(2, 1, 3, 1);
         due("3 for y in the 12th power", shown(x, 1), "x^12+3");
         for (int k : new int[] {-1, 16, Integer.MIN_VALUE, Integer.MAX_VALUE}) {
-            refused("put", 1, () -> { x.put(k, 0, 1, 1); return 0; });
-            refused("put", 1, () -> { x.put(0, 0, 1, k); return 0; });
+            refused("put", 1, () -> x.put(k, 0, 1, 1));
+            refused("put", 1, () -> x.put(0, 0, 1, k));
         }
         for (int v : new int[] {-1, 2, 4, Integer.MIN_VALUE, Integer.MAX_VALUE}) {
-            refused("put for " + v, 1, () -> { x.put(0, v, 1, 1); return 0; });
+            refused("put for " + v, 1, () -> x.put(0, v, 1, 1));
         }
     }
 
@@ -580,7 +497,7 @@ public final class PromiseTests {
         poly(x, 0, "x");
         due("no generators", x.join(3, 0), 1);
         for (int i : new int[] {-1, 4, Integer.MIN_VALUE, Integer.MAX_VALUE}) {
-            refused("clear(" + i + ")", 1, () -> { x.clear(i); return 0; });
+            refused("clear(" + i + ")", 1, () -> x.clear(i));
         }
     }
 
@@ -624,9 +541,9 @@ public final class PromiseTests {
         due("no basis behind both()", x.ideal(2, 1), NONE);
         poly(x, 9, "1");
         due("six products", x.join(2, 9), 7);
-        refused("nine products", 3, () -> { x.both(1, 1, true, 2); return 0; });
+        refused("nine products", 3, () -> x.both(1, 1, true, 2));
         due("nothing changed", x.join(2, 9), 8);
-        refused("ten generators", 3, () -> { x.both(2, 0, false, 2); return 0; });
+        refused("ten generators", 3, () -> x.both(2, 0, false, 2));
         x.both(0, 3, true, 2);
         due("no products with none", x.join(2, 9), 1);
         x.both(3, 3, false, 2);
@@ -645,19 +562,19 @@ public final class PromiseTests {
         IdealWorks x = works(7, 2, 0);
         generate(x, 0, "x^7", "y");
         generate(x, 1, "x^5", "x^6");
-        refused("degree 13", 3, () -> { x.both(0, 1, true, 1); return 0; });
+        refused("degree 13", 3, () -> x.both(0, 1, true, 1));
         x.basis(1, 6);
         due("nothing changed", element(x, 1, 0), "x^5");
         generate(x, 1, "x^5");
-        refused("degree 12", 0, () -> { x.both(0, 1, true, 1); return 0; });
+        refused("degree 12", 0, () -> x.both(0, 1, true, 1));
         generate(x, 2, "x", "x", "x", "x");
         x.both(2, 2, false, 3);
         poly(x, 9, "1");
         refused("there are 8", 3, () -> x.join(3, 9));
         for (int i : new int[] {-1, 4, Integer.MIN_VALUE, Integer.MAX_VALUE}) {
-            refused("both", 1, () -> { x.both(i, 0, true, 0); return 0; });
-            refused("both", 1, () -> { x.both(0, i, false, 0); return 0; });
-            refused("Index is told ahead of State", 1, () -> { x.both(3, 3, false, i); return 0; });
+            refused("both", 1, () -> x.both(i, 0, true, 0));
+            refused("both", 1, () -> x.both(0, i, false, 0));
+            refused("Index is told ahead of State", 1, () -> x.both(3, 3, false, i));
         }
     }
 
@@ -705,8 +622,8 @@ public final class PromiseTests {
         promise = 19;
         IdealWorks x = works(7, 3, 0);
         generate(x, 0, "x+y+z-1", "x^2-y^2+2", "x*z");
-        refused("no basis", 3, () -> { x.element(0, 0, 1); return 0; });
-        refused("no basis is told first", 3, () -> { x.element(0, 99, 1); return 0; });
+        refused("no basis", 3, () -> x.element(0, 0, 1));
+        refused("no basis is told first", 3, () -> x.element(0, 99, 1));
         x.basis(0, 5);
         String all = "";
         for (int k = 0; k < x.ideal(0, 1); k++) {
@@ -721,11 +638,11 @@ public final class PromiseTests {
         }
         int size = x.ideal(0, 1);
         for (int k : new int[] {-1, size, Integer.MIN_VALUE, Integer.MAX_VALUE}) {
-            refused("no such one", 1, () -> { x.element(0, k, 1); return 0; });
+            refused("no such one", 1, () -> x.element(0, k, 1));
         }
         for (int k : new int[] {-1, 16, Integer.MIN_VALUE, Integer.MAX_VALUE}) {
-            refused("no such polynomial", 1, () -> { x.element(1, 0, k); return 0; });
-            refused("no such ideal", 1, () -> { x.element(k, 0, 0); return 0; });
+            refused("no such polynomial", 1, () -> x.element(1, 0, k));
+            refused("no such ideal", 1, () -> x.element(k, 0, 0));
         }
     }
 
@@ -802,7 +719,7 @@ public final class PromiseTests {
         promise = 22;
         IdealWorks x = works(5, 2, 0);
         poly(x, 0, "x^3");
-        refused("no basis", 3, () -> x.remainder(0, 0, 1) ? 1 : 0);
+        refused("no basis", 3, () -> x.remainder(0, 0, 1));
         generate(x, 0, "x^2-y", "y^2-1");
         x.basis(0, 4);
         due("x^3 is not in", x.remainder(0, 0, 1) ? 1 : 0, 0);
@@ -812,12 +729,12 @@ public final class PromiseTests {
         due("into itself", x.about(0, 0), 0);
         poly(x, 0, "x^5");
         poly(x, 1, "x");
-        refused("degree 5 above 4", 3, () -> x.remainder(0, 0, 1) ? 1 : 0);
+        refused("degree 5 above 4", 3, () -> x.remainder(0, 0, 1));
         due("nothing changed", shown(x, 1), "x");
         x.clear(1);
         x.basis(1, 0);
         due("0 is of no degree", x.remainder(1, 9, 1) ? 1 : 0, 1);
-        refused("degree 5 above 0", 3, () -> x.remainder(1, 0, 1) ? 1 : 0);
+        refused("degree 5 above 0", 3, () -> x.remainder(1, 0, 1));
         poly(x, 2, "3");
         due("3 without generators", x.remainder(1, 2, 1) ? 1 : 0, 0);
         due("3", shown(x, 1), "3");
@@ -830,11 +747,11 @@ public final class PromiseTests {
         due("up to degree 1 it is not", x.remainder(2, 2, 1) ? 1 : 0, 0);
         due("x+y", shown(x, 1), "y");
         for (int k : new int[] {-1, 16, Integer.MIN_VALUE, Integer.MAX_VALUE}) {
-            refused("no such polynomial", 1, () -> x.remainder(3, k, 0) ? 1 : 0);
-            refused("no such polynomial", 1, () -> x.remainder(3, 0, k) ? 1 : 0);
-            refused("no such ideal", 1, () -> x.remainder(k, 0, 0) ? 1 : 0);
+            refused("no such polynomial", 1, () -> x.remainder(3, k, 0));
+            refused("no such polynomial", 1, () -> x.remainder(3, 0, k));
+            refused("no such ideal", 1, () -> x.remainder(k, 0, 0));
         }
-        refused("no such ideal", 1, () -> x.remainder(4, 0, 0) ? 1 : 0);
+        refused("no such ideal", 1, () -> x.remainder(4, 0, 0));
     }
 
     private static void proved() {
@@ -850,7 +767,7 @@ public final class PromiseTests {
         poly(x, 0, "x+17");
         int in = x.remainder(0, 0, 1) ? 3 : 2;
         due("proved()", x.proved(), in);
-        refused("no basis", 3, () -> x.remainder(1, 0, 1) ? 1 : 0);
+        refused("no basis", 3, () -> x.remainder(1, 0, 1));
         due("proved()", x.proved(), in);
         for (int k = 0; k < x.ideal(0, 1); k++) {
             x.element(0, k, 2);
@@ -892,21 +809,21 @@ public final class PromiseTests {
         due("1 is in the ideal", inRadical(x, 1, "y", 2), 1);
         poly(x, 1, "x^6");
         poly(x, 2, "x^7");
-        refused("1-t*a of degree 7", 0, () -> x.radical(0, 1, 7) ? 1 : 0);
-        refused("1-t*a of degree 8", 2, () -> x.radical(0, 2, 7) ? 1 : 0);
-        refused("1-t*a of degree 8, d less", 2, () -> x.radical(0, 2, 3) ? 1 : 0);
+        refused("1-t*a of degree 7", 0, () -> x.radical(0, 1, 7));
+        refused("1-t*a of degree 8", 2, () -> x.radical(0, 2, 7));
+        refused("1-t*a of degree 8, d less", 2, () -> x.radical(0, 2, 3));
         generate(x, 2, "x^7");
-        refused("a generator of degree 7", 0, () -> x.radical(2, 1, 7) ? 1 : 0);
+        refused("a generator of degree 7", 0, () -> x.radical(2, 1, 7));
         generate(x, 2, "y", "x^8");
-        refused("a generator of degree 8", 2, () -> x.radical(2, 1, 0) ? 1 : 0);
+        refused("a generator of degree 8", 2, () -> x.radical(2, 1, 0));
         for (int d : new int[] {-1, 8, Integer.MIN_VALUE, Integer.MAX_VALUE}) {
-            refused("radical up to " + d, 2, () -> x.radical(0, 1, d) ? 1 : 0);
-            refused("Index is told ahead of Argument", 1, () -> x.radical(4, 1, d) ? 1 : 0);
-            refused("Index is told ahead of Argument", 1, () -> x.radical(0, 16, d) ? 1 : 0);
+            refused("radical up to " + d, 2, () -> x.radical(0, 1, d));
+            refused("Index is told ahead of Argument", 1, () -> x.radical(4, 1, d));
+            refused("Index is told ahead of Argument", 1, () -> x.radical(0, 16, d));
         }
         for (int i : ODD) {
-            refused("no such ideal", 1, () -> x.radical(i, 1, 1) ? 1 : 0);
-            refused("no such polynomial", 1, () -> x.radical(0, i, 1) ? 1 : 0);
+            refused("no such ideal", 1, () -> x.radical(i, 1, 1));
+            refused("no such polynomial", 1, () -> x.radical(0, i, 1));
         }
         x.basis(0, 3);
         x.radical(0, 1, 5);
@@ -920,27 +837,17 @@ public final class PromiseTests {
         due("x^2-x", inRadical(x, 0, "x^2-x", 12), 1);
         due("x-1", inRadical(x, 0, "x-1", 12), 0);
         poly(x, 0, "x^11");
-        refused("up to 12 with 1 variable", 0, () -> x.radical(0, 0, 12) ? 1 : 0);
-        refused("up to 13 with 1 variable", 2, () -> x.radical(0, 0, 13) ? 1 : 0);
+        refused("up to 12 with 1 variable", 0, () -> x.radical(0, 0, 12));
+        refused("up to 13 with 1 variable", 2, () -> x.radical(0, 0, 13));
         x.field(7, 3, 1);
         generate(x, 0, "x^2", "y^2-x", "z^2-y", "x", "y^2", "x*y", "z^4", "z^3");
         due("z, with eight generators", inRadical(x, 0, "z", 5), 1);
         poly(x, 0, "x");
-        refused("up to 6 with 3 variables", 2, () -> x.radical(0, 0, 6) ? 1 : 0);
+        refused("up to 6 with 3 variables", 2, () -> x.radical(0, 0, 6));
         x.field(7, 4, 0);
         poly(x, 0, "x");
-        refused("4 variables", 2, () -> x.radical(0, 0, 0) ? 1 : 0);
-        refused("Index is told first", 1, () -> x.radical(0, 16, 0) ? 1 : 0);
-    }
-
-    private static String entries(IdealWorks x, int k) {
-        StringBuilder s = new StringBuilder();
-        for (int j = 0; x.entry(k, j, 4) != NONE && j < 50; j++) {
-            s.append(x.entry(k, j, 4)).append(':');
-            s.append(x.entry(k, j, 0)).append(',').append(x.entry(k, j, 1)).append(',');
-            s.append(x.entry(k, j, 2)).append(',').append(x.entry(k, j, 3)).append(' ');
-        }
-        return s.toString();
+        refused("4 variables", 2, () -> x.radical(0, 0, 0));
+        refused("Index is told first", 1, () -> x.radical(0, 16, 0));
     }
 
     private static void dictionary() {
@@ -1144,9 +1051,6 @@ public final class PromiseTests {
         entry();
         zeros();
         zero();
-        System.out.println(wrong == 0 ? "all promises are kept" : wrong + " answers are not as due");
-        if (wrong != 0) {
-            System.exit(1);
-        }
+        finish("all promises are kept");
     }
 }
