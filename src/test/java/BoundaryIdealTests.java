@@ -102,6 +102,11 @@ public final class BoundaryIdealTests extends Bench {
             due("four products", generators(x, 2), 4);
             x.both(0, 1, false, 3);
             due("zeros of both", x.zeros(3), 0);
+            x.basis(0, 1);
+            x.basis(1, 1);
+            x.both(0, 1, false, 3);
+            due("a and b keep their bases", elements(x, 0) + "; " + elements(x, 1), "y+5, x+6; y+3, x+4");
+            due("to has none", x.ideal(3, 1), NONE);
             due("four in all", generators(x, 3), 4);
             x.both(1, 1, false, 1);
             due("with itself, into itself", generators(x, 1), 4);
@@ -538,6 +543,10 @@ public final class BoundaryIdealTests extends Bench {
             generate(y, 0, "x", "y", "z", "x", "y", "z", "x", "y");
             due("a full ideal", inRadical(y, 0, "x+y+z", 2), true);
             due("a full ideal", inRadical(y, 0, "x+1", 5), false);
+            IdealWorks bits = works(2, 1, 0);
+            generate(bits, 0, "x^3+x");
+            due("the least P", inRadical(bits, 0, "x^2+x", 12), true);
+            due("the least P", inRadical(bits, 0, "x", 12), false);
         });
         sentence(24, "generators, and that one, of a degree above d are left out", () -> {
             IdealWorks x = works(7, 2, 0);
@@ -653,6 +662,13 @@ public final class BoundaryIdealTests extends Bench {
             line.basis(0, 30);
             due("30 monomials of one variable", line.dictionary(0), 1);
             due("x^30-x", entries(line, 0), "1:30,0,0,0 6:1,0,0,0 ");
+            IdealWorks bits = works(2, 3, 1);
+            generate(bits, 0, "x+y*z+1", "y^2+z", "z^2+y");
+            bits.basis(0, 7);
+            due("the least P", bits.dictionary(0), 3);
+            due("z^4+z", entries(bits, 0), "1:0,0,4,0 1:0,0,1,0 ");
+            due("y+z^2", entries(bits, 1), "1:0,1,0,0 1:0,0,2,0 ");
+            due("x+z^3+1", entries(bits, 2), "1:1,0,0,0 1:0,0,3,0 1:0,0,0,0 ");
         });
         sentence(25, "IndexOutOfBoundsException: no such ideal.", () -> {
             for (int i : NO_IDEALS) {
@@ -694,6 +710,8 @@ public final class BoundaryIdealTests extends Bench {
             refused("without a basis", STATE, () -> x.dictionary(0));
             refused("no such ideal", INDEX, () -> x.dictionary(4));
             due("the latest not refused", entries(x, 1), "1:1,0,0,0 5:0,3,0,0 ");
+            x.field(7, 1, 0);
+            due("as many variables as there were", entries(x, 1), "1:1,0,0,0 5:0,3,0,0 ");
             x.field(11, 4, 1);
             due("beyond its N", x.entry(0, 0, 2), 0);
             due("beyond its N", x.entry(0, 0, 3), 0);
@@ -767,6 +785,14 @@ public final class BoundaryIdealTests extends Bench {
             due("eight generators, the last tells", point(x, 0, 2), "0,6");
             generate(x, 0, "x^2", "y^2");
             due("a double zero counts once", x.zeros(0), 1);
+            IdealWorks line = works(31, 1, 0);
+            generate(line, 0, "2*x^30-2");
+            due("a power of HIGHEST is 1 but of 0", line.zeros(0), 30);
+            due("a power of HIGHEST is 1 but of 0", line.zero(0, 0), 1);
+            IdealWorks bits = works(2, 4, 1);
+            generate(bits, 0, "x*y*z*w+1");
+            due("the least P", bits.zeros(0), 1);
+            due("the least P", point(bits, 0, 4), "1,1,1,1");
         });
         sentence(27, "IndexOutOfBoundsException: no such ideal.", () -> {
             for (int i : NO_IDEALS) {
@@ -798,7 +824,9 @@ public final class BoundaryIdealTests extends Bench {
             y.zeros(0);
             due("the first", y.zero(0, 0), 0);
             due("the 200th", y.zero(199, 0), 199);
-            due("the 201st", y.zero(200, 0), NONE);
+            for (int k : new int[] {200, 201, 800, 19996, 19997, MOST}) {
+                due("beyond the 200th", y.zero(k, 0), NONE);
+            }
             IdealWorks z = works(7, 2, 0);
             generate(z, 0, "x*(x-5)", "y*(y-3)");
             due("four", z.zeros(0), 4);
@@ -809,6 +837,7 @@ public final class BoundaryIdealTests extends Bench {
             refused("too many points", STATE, () -> z.zeros(0));
             due("the latest not refused", point(z, 3, 2), "5,3");
             z.field(7, 1, 0);
+            due("as many variables as there were", point(z, 3, 3), "5,3,-1");
             generate(z, 0, "x-6");
             z.zeros(0);
             due("a later one", z.zero(0, 0), 6);

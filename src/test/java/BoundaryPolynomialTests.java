@@ -72,19 +72,21 @@ public final class BoundaryPolynomialTests extends Bench {
             }
         });
         sentence(2, "(All else stays: text in hand, bytes that are ready, what fault(), entry(), zero(), proved() tell.)", () -> {
-            IdealWorks x = rich();
-            IdealWorks y = rich();
-            x.field(32003, 3, 1);
-            due("fault(0)", x.fault(0), 1);
-            due("fault(1)", x.fault(1), 2);
-            due("proved()", x.proved(), 1);
-            for (int k = 0; k < 3; k++) {
-                due("entry()", entries(x, k), entries(y, k));
-                due("zero()", point(x, k, 4), point(y, k, 4));
+            for (int n = 1; n <= 4; n++) {
+                IdealWorks x = rich();
+                x.field(32003, n, 1);
+                due("fault(0)", x.fault(0), 1);
+                due("fault(1)", x.fault(1), 2);
+                due("proved()", x.proved(), 1);
+                due("entry()", entries(x, 0), "1:0,2,0,0 6:0,0,0,0 ");
+                due("entry()", entries(x, 1), "1:1,0,0,0 2:0,1,0,0 ");
+                due("zero()", point(x, 0, 3) + " " + point(x, 1, 3) + " " + x.zero(2, 0), "2,6,-1 5,1,-1 -1");
+                due("text and bytes", x.end(1), 2);
+                ready(x, n == 1 ? "1" : "y");
+                due("text and bytes", x.end(1), 3);
+                due("text and bytes", x.read(0), 2);
+                due("text and bytes", shown(x, 0), n == 1 ? "x+1" : "x+y");
             }
-            due("text and bytes", x.end(2), 3);
-            due("text and bytes", x.read(0), 2);
-            due("text and bytes", shown(x, 0), "x+y");
         });
         sentence(2, "IllegalArgumentException: P is no prime up to 32003, N not 1 .. 4, ORDER not 0 or 1.", () -> {
             IdealWorks[] x = {null};
@@ -414,6 +416,11 @@ public final class BoundaryPolynomialTests extends Bench {
             poly(x, 0, "x^30+x^28+x^15+x^8+x^7+x+1");
             x.derive(0, 0, 1);
             due("exponents that are 0 modulo P", shown(x, 1), "2*x^29+x^14+x^7+1");
+            for (int c = 1; c <= 6; c++) {
+                poly(x, 0, c + "*x");
+                x.derive(0, 0, 15);
+                due("of " + c + "*x", shown(x, 15), "" + c);
+            }
             poly(x, 0, "5");
             x.derive(0, 0, 15);
             due("of a number", shown(x, 15), "0");

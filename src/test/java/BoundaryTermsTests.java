@@ -579,6 +579,9 @@ public final class BoundaryTermsTests extends Bench {
             faulty("1234567890x", 4, 0);
             faulty("x^123", 4, 2);
             faulty("x^ 123", 4, 3);
+            faulty("x^999", 4, 2);
+            faulty("(x^12)^130", 4, 7);
+            faulty(7, 1, "x^310", 4, 2);
             faulty("x^12*x^123", 4, 7);
             faulty("x^12*1234567890", 4, 5);
             faulty("x^12*y*1234567890", 3, 4);
@@ -688,6 +691,9 @@ public final class BoundaryTermsTests extends Bench {
             generate(x, 1, "2*x^2+x*y+y", "3*x*y+1");
             x.basis(1, 2);
             due("x*y comes from the tail of x^2", elements(x, 1), "x*y+5, x^2+4*y+1");
+            generate(x, 2, "x^2+x+y+3", "y+1");
+            x.basis(2, 2);
+            due("y stands behind x, which is no leading one", elements(x, 2), "y+1, x^2+x+2");
         });
     }
 
@@ -742,6 +748,11 @@ public final class BoundaryTermsTests extends Bench {
             x.basis(0, 3);
             x.remainder(0, 0, 1);
             due("up to 3, y^2 is one of them", shown(x, 1), "x+y+2");
+            generate(x, 1, "y+1");
+            x.basis(1, 3);
+            poly(x, 0, "x^3+x*y+x+y");
+            due("y stands behind x, which is no leading one", x.remainder(1, 0, 1), false);
+            due("y stands behind x, which is no leading one", shown(x, 1), "x^3+6");
             poly(x, 0, "x^3");
             due("of the very degree", x.remainder(0, 0, 1), false);
             due("x^3", shown(x, 1), "1");
